@@ -264,12 +264,6 @@ public final class MarkupJudge {
             return there;
         }
 
-        void expect(String words) {
-            if (!skip(words)) {
-                throw new IllegalArgumentException();
-            }
-        }
-
         boolean skipBlanks() {
             int from = at;
             while (at < end && isBlank(text[at])) {
@@ -1093,7 +1087,7 @@ public final class MarkupJudge {
                     readReference();
                 } else if (c != '<') {
                     found.addText(source.take());
-                } else if (source.looksAt("</")) {
+                } else if (source.skip("</")) {
                     readEndTag();
                 } else if (!source.skipComment()) {
                     readTag();
@@ -1160,7 +1154,6 @@ public final class MarkupJudge {
         }
 
         private void readEndTag() {
-            source.expect("</");
             int name = source.takeName();
             source.skipBlanks();
             source.pass('>');

@@ -87,6 +87,13 @@ public final class CallsTest {
         for (int[] pair : none) {
             CHECK.call("event(" + pair[0] + ", " + pair[1] + ")", () -> judge.event(pair[0], pair[1]), Check.NO_INDEX);
         }
+        MarkupJudge again = Check.fed("<a><b/>t</a>");
+        again.judge(0);
+        again.clear();
+        Check.feed(again, "<a>x</a>");
+        again.judge(0);
+        CHECK.call("event(3, 0) of three events", () -> again.event(3, 0), Check.NO_INDEX);
+        CHECK.call("character(3, 0) of three events", () -> again.character(3, 0), Check.NO_INDEX);
         CHECK.same("character(1, 1)", judge.character(1, 1), (int) '2');
         CHECK.same("character(2, 0)", judge.character(2, 0), (int) 't');
         CHECK.same("character(2, 2)", judge.character(2, 2), (int) 'v');

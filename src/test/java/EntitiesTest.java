@@ -57,6 +57,13 @@ public final class EntitiesTest {
         CHECK.judged(with(entity("e", "<!--"), "<a>&e;--></a>"), Check.WRONG);
         CHECK.judged(with(entity("e", "<b>"), "<a>&e;</b></a>"), Check.WRONG);
         CHECK.judged(with(entity("e", "&#38;"), "<a>&e;lt;</a>"), Check.WRONG);
+        // What one entity's text begins, the text of the next one declared does not end.
+        String[][] parted = {{"<a/", ">"}, {"<", "a/>"}, {"<a></a", ">"}, {"<a>", "</a>"}, {"&", "l;"}, {"&l", ";"}, {"&", "lt;"}, {"&lt", ";"},
+            {"&#38;#65", ";"}, {"&#38;#6", "5;"}, {"<!-", "-x-->"}, {"<!--", "-->"}, {"<!--x--", ">"}, {"<a ", "/>"}, {"<a", " />"}, {"<a x", "=&#34;1&#34;/>"},
+            {"<a x=&#34;1", "&#34;/>"}};
+        for (String[] two : parted) {
+            CHECK.judged(with(entity("e", two[0]) + entity("f", two[1]) + entity("l", "x"), "<a>&e;</a>"), Check.WRONG);
+        }
         CHECK.judged(with(entity("e", "&f;") + entity("f", "&e;"), "<a x=\"&e;\"/>"), Check.WRONG);
         CHECK.costs(with(entity("e", "&f;") + entity("f", "&e;"), "<a>&e;</a>"), 2000, Check.WRONG, 8);
         CHECK.costs(with(entity("e", "&f;") + entity("f", "&x;"), "<a>&e;</a>"), 2000, Check.WRONG, 8);

@@ -125,6 +125,9 @@ public final class FaultsTest {
         group("(a?,b?,c?)", "- a ac bc abc", "ba cb");
         group("((a?,b?)+,c)", "c ac bc abc bac bbac", "- ab ca");
         group("(((a)))", "a", "- aa");
+        group("(a|b?)", "- a b", "ab");
+        group("(a?|b)", "- a b", "ab");
+        group("((a|b*),c)", "c ac bc bbc", "- a abc");
         CHECK.judged("<!DOCTYPE a [<!ELEMENT a (b)><!ELEMENT b (b?)>]><a><b><b/></b></a>", 0);
         CHECK.judged("<!DOCTYPE a [<!ELEMENT a (b)><!ELEMENT b (b?)>]><a><b><b/><b/></b></a>", 4);
     }
@@ -160,6 +163,7 @@ public final class FaultsTest {
         CHECK.judged(with("<!ATTLIST a x CDATA #REQUIRED>", "<a/>"), 16);
         CHECK.judged(with("<!ATTLIST a x CDATA #REQUIRED>", "<a x=\"\"/>"), 0);
         CHECK.judged(with("<!ATTLIST a x CDATA #REQUIRED>", "<a x=\"\"><a/></a>"), 16);
+        CHECK.judged(with("<!ATTLIST a x CDATA #REQUIRED>", "<a><a x=\"\"/></a>"), 16);
         CHECK.judged(with("<!ATTLIST a x CDATA #REQUIRED><!ATTLIST b x CDATA #IMPLIED><!ELEMENT b ANY>", "<a><b x=\"\"/></a>"), 16);
         CHECK.judged(with("<!ATTLIST b x CDATA #REQUIRED>", "<a/>"), 0);
         CHECK.judged(with("<!ATTLIST a x CDATA #FIXED \"1\">", "<a x=\"1\"/>"), 0);
@@ -168,11 +172,11 @@ public final class FaultsTest {
         CHECK.judged(with("<!ATTLIST a x CDATA #FIXED \"1\">", "<a x=\"12\"/>"), 32);
         CHECK.judged(with("<!ATTLIST a x NMTOKEN #FIXED \"1 \">", "<a x=\" 1\"/>"), 0);
         CHECK.judged(with("<!ATTLIST a x CDATA \"1\">", "<a x=\"2\"/>"), 0);
-        String tokens = "<!ATTLIST a x ( on|off\n|2 ) #IMPLIED>";
+        String tokens = "<!ATTLIST a x ( on|off\n|2 ) #IMPLIED y (y) #IMPLIED>";
         for (String fits : new String[] {"on", " off ", "2", "&#111;n"}) {
             CHECK.judged(with(tokens, "<a x=\"" + fits + "\"/>"), 0);
         }
-        for (String not : new String[] {"", "o", "onn", "of", "on off", "ON", "on|off", "|", "(", " "}) {
+        for (String not : new String[] {"", "o", "onn", "of", "on off", "ON", "on|off", "|", "(", " ", "a", "x", "y"}) {
             CHECK.judged(with(tokens, "<a x=\"" + not + "\"/>"), 64);
         }
         for (String fits : new String[] {"a", "1", "a1z", " 09 "}) {

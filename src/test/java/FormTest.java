@@ -116,7 +116,7 @@ public final class FormTest {
 
     private static void models() {
         for (String fits : new String[] {"EMPTY", "ANY", "EMPTY ", "(#PCDATA)", "( #PCDATA\n)", "(#PCDATA)*", "( #PCDATA | b|c )*", "(#PCDATA|b|b)*",
-            "(b?)", "(b)?", "(b)*", "( b? , c* )", "( b | c )?", "((b|c),(d|e)?)*", "(b?,c?,d?) ", "((((((((b?))))))))"}) {
+            "(b?)", "(b)?", "(b)*", "( b? , c* )", "( b | c )?", "((b|c),(d|e)?)*", "(b?,c?,d?) ", "((((((((b?))))))))", "( ( b ) , ( ( c )? ) )?"}) {
             model(fits, 0);
         }
         for (String wrong : new String[] {"", "empty", "EMPT", "EMPTYx", "ANYx", "b", "()", "( )", "(b", "(b,)", "(,b)", "(b|)", "(b,c|d)", "(b|c,d)",
