@@ -14,12 +14,18 @@ final class Check {
 
     private int wrong;
     private int asked;
+    private String words = "";
+
+    /** The document's words that the answers behind this call are held against. */
+    void says(String newWords) {
+        words = "[" + newWords + "] ";
+    }
 
     void same(String what, Object got, Object due) {
         asked++;
         if (!String.valueOf(due).equals(String.valueOf(got))) {
             wrong++;
-            System.out.println(what + " answered " + got + ", due is " + due);
+            System.out.println(words + what + " answered " + got + ", due is " + due);
         }
     }
 
@@ -49,6 +55,23 @@ final class Check {
         MarkupJudge judge = fed(document);
         call("judge(2000) of " + document, () -> judge.judge(2000), due);
         same("the events of " + document, eventsOf(judge), events);
+    }
+
+    /** All of these are judged alike. */
+    void each(Object due, String... documents) {
+        for (String document : documents) {
+            judged(document, due);
+        }
+    }
+
+    /** What is due is found when the last characters were read, and not before: cut off there, a document is wrong. */
+    void foundAt(String before, String last, Object due) {
+        foundAt(before, last, 2000, due);
+    }
+
+    void foundAt(String before, String last, int limit, Object due) {
+        judged(before, limit, WRONG);
+        judged(before + last, limit, due);
     }
 
     /** Ends the program, with exit code 1 if an answer was not as due. */
