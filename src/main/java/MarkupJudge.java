@@ -153,6 +153,7 @@ public final class MarkupJudge {
 
     /** The characters of the document, the texts of its entities behind them, and the place of reading. */
     private static final class Source {
+        /** All texts together are no longer than the document that they stand in. */
         private final int[] text = new int[2 * MOST_BYTES];
         private int filled;
         private int at;
@@ -370,14 +371,12 @@ public final class MarkupJudge {
             }
         }
 
-        /** The text begins at from and is the last that the source holds; only a name's first one stays. */
+        /** The text begins at from and is the last that the source holds; only a name's first one counts. */
         void declareText(int name, int from) {
             int letter = name - 'a';
             if (textStarts[letter] == NONE) {
                 textStarts[letter] = from;
                 textEnds[letter] = source.filled;
-            } else {
-                source.filled = from;
             }
         }
 

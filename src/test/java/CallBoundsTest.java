@@ -23,6 +23,7 @@ public final class CallBoundsTest {
         cost();
         countRange();
         countKinds();
+        lastCall();
         CHECK.end();
     }
 
@@ -258,6 +259,12 @@ public final class CallBoundsTest {
         most.judge(0);
         CHECK.call("character 0 of a newer text", () -> most.character(1, 0), (int) 'y');
         CHECK.call("character 1 of a newer text", () -> most.character(1, 1), Check.NO_INDEX);
+        MarkupJudge fewer = judged("<a><b/><c/>t</a>");
+        fewer.clear();
+        Check.feed(fewer, "<a><b/>x</a>");
+        fewer.judge(0);
+        CHECK.call("character 0 of an event that is not there any more", () -> fewer.character(5, 0), Check.NO_INDEX);
+        CHECK.call("an event that is not there any more", () -> fewer.event(5, 0), Check.NO_INDEX);
     }
 
     private static void askingChangesNothing() {
@@ -325,6 +332,21 @@ public final class CallBoundsTest {
         counted(judge, "<!DOCTYPE a [<!ELEMENT a ANY>]><a/>", 2, 2, threw);
         judge.judge(0);
         CHECK.same("count(0) when the same is judged again", judge.count(0), 3);
+    }
+
+    private static void lastCall() {
+        CHECK.says("An object is used for at most 512 calls after it has been made");
+        MarkupJudge judge = new MarkupJudge();
+        judge.bytes(0x3E2F613CL, 4);
+        for (int call = 2; call < 512; call++) {
+            CHECK.call("call " + call + ", judge(0)", () -> judge.judge(0), 1);
+        }
+        CHECK.same("call 512, count(1)", judge.count(1), 510);
+        MarkupJudge other = new MarkupJudge();
+        for (int call = 1; call < 512; call++) {
+            CHECK.call("call " + call + ", bytes", () -> other.bytes(0x20, 1), call > 360 ? Check.TOO_MUCH : call);
+        }
+        CHECK.same("call 512, clear()", other.clear(), 360);
     }
 
     private static void counted(MarkupJudge judge, String document, int valid, int faulty, int threw) {

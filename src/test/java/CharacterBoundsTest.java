@@ -126,6 +126,9 @@ public final class CharacterBoundsTest {
             }
             Check.feed(judge, end);
             CHECK.call("judge(0) of a document that ends in " + Arrays.toString(row), () -> judge.judge(0), Check.WRONG);
+            MarkupJudge full = Check.fed(" ".repeat(360 - row.length));
+            Check.feed(full, end);
+            CHECK.call("judge(0) of 360 bytes that end in " + Arrays.toString(row), () -> full.judge(0), Check.WRONG);
         }
     }
 

@@ -146,10 +146,10 @@ public final class FaultBoundsTest {
         }
         CHECK.found(most + ">]><a/>", 2 + 128, due + " -a");
         StringBuilder more = new StringBuilder(most + "><!ATTLIST b");
-        for (char name = 'a'; name <= 'i'; name++) {
+        for (char name = 'a'; name <= 'm'; name++) {
             more.append(' ').append(name).append(" ID \"\"");
         }
-        CHECK.found(more + ">]><b/>", 1 + 2 + 128, "+b a[] b[] c[] d[] e[] f[] g[] h[] i[] -b");
+        CHECK.found(more + ">]><b/>", 1 + 2 + 128, "+b a[] b[] c[] d[] e[] f[] g[] h[] i[] j[] k[] l[] m[] -b");
     }
 
     private static void events() {
@@ -397,7 +397,14 @@ public final class FaultBoundsTest {
         CHECK.says("or both next behind the same place");
         plain(0, "(c,d,c,d)", "(c,(d|e),c)", "(c,d?,e)", "(c,(d,c)*,e)", "(c,d)*", "((c|d)*,e)", "(c,d,(e,c)*)", "(c,(d|(e,d)))", "(c?,d?)*");
         plain(512, "(c,(d|d))", "(c,d?,d)", "(c,d*,d)", "(c,d+,d)", "(c+,c)", "(c,(d,e)*,d)", "(c,(d,c)*,d)", "(c,c?)*", "((c,d?)*,d)",
-            "(d,c?,e?,c)", "((c|d)+,d)", "(c?,d,c?)*", "((c,d)|(d,c,c?))*", "(c,(d?,e?)*,d)");
+            "(d,c?,e?,c)", "((c|d)+,d)", "(c?,d,c?)*", "((c,d)|(d,c,c?))*", "(c,(d?,e?)*,d)", "(c,(c,d)+)+");
+        CHECK.says("the names of the elements in order must be one of those that the group describes, plain or not");
+        content("((a,b)|(a,c))", 512, "<a/><b/>", "<a/><c/>");
+        content("((a,b)|(a,c))", 512 + 4, "", "<a/>", "<a/><a/>", "<a/><b/><c/>");
+        content("((a|b)*,a,(a|b))", 512, "<a/><b/>", "<b/><a/><a/><a/><b/>", "<a/><a/><a/>");
+        content("((a|b)*,a,(a|b))", 512 + 4, "<a/>", "<b/><b/>", "<b/><a/><b/><b/>");
+        content("(a?,a)", 512, "<a/>", "<a/><a/>");
+        content("(a?,a)", 512 + 4, "", "<a/><a/><a/>");
         CHECK.says("asked of models that count");
         CHECK.judged(with("<!ELEMENT b ANY><!ELEMENT b (c|c)>", "<a/>"), 1024);
         CHECK.judged(with("<!ELEMENT b (c|c)><!ELEMENT b ANY>", "<a/>"), 512 + 1024);
